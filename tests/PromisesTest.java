@@ -116,6 +116,16 @@ public final class PromisesTest {
         due("way", x.way(0, 1), 7);
         due("sea with blanks", Check.sea(x, "\n port\na ;port  b\n;way a\nb 20 ; parrot 0;\n\n"), 4);
         due("way", x.way(1, 0), 20);
+        due("all sorts", Check.sea(x, "port a;ship s;role r;needs s r;man m r;rain a 0;wanted s a 1;owed s a 1;parrot 5;"), 9);
+        due("nothing of it stays", Check.sea(x, "port a;port b;ship s;role r;man m;"), 5);
+        due("no needs", x.needs(0), 0);
+        due("no roles", x.man(0), 0);
+        due("no rain", x.port(0, 3), 0);
+        due("not wanted", x.price(0, 0, 0), 0);
+        due("not known", x.knows(0, 0), -1);
+        due("not owed", x.price(0, 0, 1), 0);
+        due("no parrot", x.count(6), 0);
+        due("no way", x.way(0, 1), -1);
         due("sea of nothing but blanks", Check.sea(x, " \n "), 0);
         due("count(0)", x.count(0), 0);
         FalseName y = big();
@@ -131,6 +141,20 @@ public final class PromisesTest {
         due("day 0", y.now(0), 0);
         due("no sentence", y.said(-1), -1);
         due("nothing can be undone", y.undo(), -1);
+        String prison = "port a;port b;way a b 1;ship s;ship t;owed t a 5;wanted s b 3;";
+        FalseName z = Check.with(prison);
+        z.paint(1);
+        z.takes();
+        z.paint(0);
+        z.sail(1);
+        nowIs(z, 3, 1, 0, 1, 2, 1, 3, 1);
+        due("a new sea", Check.sea(z, prison), 7);
+        nowIs(z, 0, 0, 0, -1, 0, 0, 1, 0);
+        due("she came nowhere", z.port(1, 2), 0);
+        due("nothing is taken", z.price(1, 0, 1), 5);
+        FalseName able = Check.with(lines("role", "a,b,c,d,e,f") + "man m f e d c b a;man n a;");
+        due("a man of six roles", able.man(0), 63);
+        due("a man of one", able.man(1), 1);
     }
 
     private static void seaFault(String text, int kind, int place) {
@@ -175,6 +199,8 @@ public final class PromisesTest {
         seaFault("port a;port b;mail a b 40;mail b a 1;mail a b 9;", 3, 44);
         seaFault("port a;ship s;wanted a s 1;", 3, 21);
         seaFault("port a;ship s;wanted s a 0;", 2, 25);
+        seaFault("port a;ship s;wanted s a 251;", 2, 25);
+        seaFault(lines("role", "a,b,c,d,e,f") + "man m a b c d e f a;", 3, 60);
         seaFault("port a;ship s;wanted s a 250;owed s a 250;wanted s a 1;", 3, 51);
         seaFault("port a;ship s;owed s a 251;", 2, 23);
         seaFault("ship s;role r;needs s r;needs s r;", 3, 32);
@@ -582,14 +608,15 @@ public final class PromisesTest {
         due("paint undone", x.undo(), 0);
         nowIs(x, 0, 0, 0, -1, 0, 0, 1, 0);
         due("no more", x.undo(), -1);
-        for (int i = 0; i < 12; i++) {
-            x.waits(1);
+        for (int i = 1; i <= 12; i++) {
+            x.waits(i);
         }
         for (int i = 7; i >= 0; i--) {
             due("undo of 12", x.undo(), i);
+            due("the day then", x.now(0), (i + 4) * (i + 5) / 2);
         }
         due("no more than 8", x.undo(), -1);
-        due("the first four stay", x.now(0), 4);
+        due("the first four stay", x.now(0), 10);
         FalseName y = big();
         Check.log(y, "waits 2;sails bari;waits 3;", 1);
         due("log lived", y.now(0), 8);
@@ -825,6 +852,13 @@ public final class PromisesTest {
         due("lasts(-1, 0) throws", lastsThrows(x, -1, 0), true);
         due("lasts(0, 2) throws", lastsThrows(x, 0, 2), true);
         due("lasts(0, -1) throws", lastsThrows(x, 0, -1), true);
+        int[] least = {1, 11, 5, 3, 2, 7, 1, 5, 1, 1, 1, 1, 0};
+        int[] of = {1, 12, 6, 4, 3, 12, 2, 12, 3, 4, 6, 12, 1};
+        for (int n = 0; n <= 12; n++) {
+            FalseName parrot = Check.with("parrot " + n + ";");
+            due("parrot " + n + ": lasts(1, 0)", parrot.lasts(1, 0), least[n]);
+            due("parrot " + n + ": lasts(1, 1)", parrot.lasts(1, 1), of[n]);
+        }
         FalseName never = Check.with("parrot 12;");
         due("0 of 1", never.lasts(3, 0), 0);
         due("0 of 1", never.lasts(3, 1), 1);

@@ -591,6 +591,9 @@ public final class FalseName {
         static final int OTHER = 3;
         static final String SIGNS = ";<=>()";
         static final int LONGEST_WORD = 7;
+        static final int LETTER_BITS = 5;
+        /** Where a WORD's first letter is put, with six places below it. */
+        static final int FIRST_LETTER = 30;
         static final int LONGEST_FIGURES = 3;
 
         final byte[] text;
@@ -614,21 +617,17 @@ public final class FalseName {
         Reader(byte[] text) {
             this.text = text;
             int which = 0;
-            int length = 0;
+            int shift = FIRST_LETTER;
             for (int i = 0; i < WORDS.length() && which < WORD_COUNT; i++) {
                 char sign = WORDS.charAt(i);
                 if (sign == ' ') {
                     which++;
-                    length = 0;
+                    shift = FIRST_LETTER;
                 } else {
-                    reserved[which] |= letterAt(sign, length);
-                    length++;
+                    reserved[which] |= (long) (sign - 'a' + 1) << shift;
+                    shift -= LETTER_BITS;
                 }
             }
-        }
-
-        static long letterAt(int letter, int place) {
-            return place < LONGEST_WORD ? (long) (letter - 'a' + 1) << 5 * (LONGEST_WORD - 1 - place) : 0;
         }
 
         void open(int bytes, int most) {
@@ -667,12 +666,14 @@ public final class FalseName {
         /** Reads all small letters and digits that come: how many letters. */
         private int readRun() {
             int letters = 0;
+            int shift = FIRST_LETTER;
             word = 0;
             value = 0;
             while (at < size) {
                 int sign = text[at];
                 if (sign >= 'a' && sign <= 'z') {
-                    word |= letterAt(sign, at - start);
+                    word |= shift < 0 ? 0 : (long) (sign - 'a' + 1) << shift;
+                    shift -= LETTER_BITS;
                     letters++;
                 } else if (sign >= '0' && sign <= '9') {
                     value = at - start < LONGEST_FIGURES ? value * 10 + sign - '0' : value;
@@ -945,7 +946,7 @@ public final class FalseName {
             long one = names.wordOf(SHIP, s);
             long other = names.wordOf(SHIP, t);
             long mix = 0;
-            for (int shift = 0; shift < 5 * Reader.LONGEST_WORD; shift += 5) {
+            for (int shift = Reader.FIRST_LETTER; shift >= 0; shift -= Reader.LETTER_BITS) {
                 // A place without a letter is 0, below all letters: the other's letter stays.
                 mix |= Math.max(one >> shift & 31, other >> shift & 31) << shift;
             }

@@ -269,6 +269,10 @@ public final class PromisesTest {
                 needs.append("needs ").append(s).append(' ').append(r).append(';');
             }
         }
+        String all30 = manyNeeds + lines("port", "pa,pb,pc,pd,pe,pf,pg,ph") + lines("man", "ma,mb,mc,md,me,mf,mg,mh");
+        due("30 names", Check.sea(x, all30), 30);
+        due("the last of them", Check.log(x, "mh learns n;", 1), -1);
+        due("man(7)", x.man(7), 32);
         due("48 needs", Check.sea(x, manyNeeds + needs), 62);
         due("needs(7)", x.needs(7), 63);
     }

@@ -645,6 +645,27 @@ public final class PromisesTest {
         Check.sentence(kept, "here");
         kept.undo();
         due("the sentence stays", kept.said(-1), 1);
+        undoOfUnlivedLogs();
+    }
+
+    private static void undoOfUnlivedLogs() {
+        FalseName none = new FalseName();
+        due("no sea for her: an empty log", none.log(1), -1);
+        due("nothing was lived", none.undo(), -1);
+        due("no sea for her: a log", Check.log(none, "waits 1;", 1), 0);
+        due("nothing was lived", none.undo(), -1);
+        FalseName x = big();
+        x.waits(4);
+        due("an empty log", x.log(1), -1);
+        due("a blank log", Check.log(x, "  ", 1), -1);
+        due("the first line is wrong", Check.log(x, "sails rome;waits 7;", 1), 0);
+        due("the wait is undone", x.undo(), 0);
+        due("back to 0", x.now(0), 0);
+        due("no more", x.undo(), -1);
+        due("the second line is wrong", Check.log(x, "waits 7;sails rome;", 1), 1);
+        due("day 7", x.now(0), 7);
+        due("the first line is undone", x.undo(), 0);
+        due("back to 0", x.now(0), 0);
     }
 
     // Promises 17, 18

@@ -267,7 +267,7 @@ public final class RandomSeasTest {
         if (lives == 0) {
             model.now = real;
         }
-        return lives == 1;
+        return lives == 1 && right > 0;
     }
 
     /** Why it is wrong. */

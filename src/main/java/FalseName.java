@@ -197,7 +197,8 @@ public final class FalseName {
         }
         trial.copyFrom(her);
         int wrong = log.live(trial);
-        if (lives == 1) {
+        // Of a LOG without a LINE that could be done nothing was lived: there is nothing to undo.
+        if (lives == 1 && log.right > 0) {
             keepTrial();
         }
         return wrong;

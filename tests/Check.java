@@ -1,15 +1,21 @@
 /** What all tests share: texts come on the tape, answers are compared. */
 final class Check {
     private static int wrong = 0;
+    private static String about = "";
 
     private Check() {
+    }
+
+    /** Wrong answers that come next are told with this ahead. */
+    static void about(String what) {
+        about = what.isEmpty() ? "" : what + ": ";
     }
 
     static void due(String call, long got, long want) {
         if (got != want) {
             wrong++;
             if (wrong <= 50) {
-                System.out.println(call + " answered " + got + ", due is " + want);
+                System.out.println(about + call + " answered " + got + ", due is " + want);
             }
         }
     }

@@ -3,6 +3,9 @@ final class AnswerBoundaries {
     private static final int[] ODD = PromiseBoundaries.ODD;
     private static final String[] EIGHT = PromiseBoundaries.EIGHT;
     private static final String[] SHIPS = PromiseBoundaries.EIGHT_SHIPS;
+    /** A SHIP that needs all six ROLES. */
+    private static final String SIX = "ship s;" + Texts.lines("role", "u", "v", "w", "x", "y", "z")
+        + Texts.lines("needs", "s u", "s v", "s w", "s x", "s y", "s z");
     private static final String PAIR = "port a;port b;way a b 3;ship s;ship t;";
 
     private AnswerBoundaries() {
@@ -64,7 +67,8 @@ final class AnswerBoundaries {
         for (int many = 2; many <= 8; many++) {
             StringBuilder text = new StringBuilder("port a;");
             for (int p = 1; p < many; p++) {
-                text.append("port ").append(EIGHT[p]).append(";mail ").append(EIGHT[p - 1]).append(' ').append(EIGHT[p]).append(" 1;");
+                text.append("port ").append(EIGHT[p]).append(";mail ").append(EIGHT[p - 1]).append(' ').append(EIGHT[p])
+                    .append(" 1;");
             }
             due("a row of " + many, Check.with(text.toString()).names(), many);
         }
@@ -88,7 +92,7 @@ final class AnswerBoundaries {
     }
 
     private static void register() {
-        Doc.says("Promise 25", "NONE: not as told (2 to 10 pairs, PORTS).");
+        Doc.says("Promise 25", "REGISTER: how many ships; NONE: not as told (2 to 10 pairs, PORTS).");
         FalseName x = Check.with("port a;port b;");
         int[] sizes = {0, 1, 2, 3, 5, 7, 19, 21, 22, 24, 40, 940};
         for (int size : sizes) {
@@ -104,8 +108,9 @@ final class AnswerBoundaries {
         due("any DAY", Check.register(x, 0, 128, 1, 255), 2);
         due("an empty SEA", Check.register(new FalseName(), 0, 0, 0, 0), -1);
         Looks.stay("register()", x, () -> Check.register(x, 0, 0, 1, 9));
-        due("ten PORTS and DAYS", Check.register(Check.with(Texts.lines("port", EIGHT)), 0, 0, 1, 0, 2, 0, 3, 0, 4, 0, 5, 0, 6, 0,
-            7, 0, 0, 9, 7, 9), 8);
+        FalseName full = Check.with(Texts.lines("port", EIGHT));
+        due("eight PORTS, two of them twice",
+            Check.register(full, 0, 0, 1, 0, 2, 0, 3, 0, 4, 0, 5, 0, 6, 0, 7, 0, 0, 9, 7, 9), 8);
     }
 
     private static void lacks() {
@@ -123,10 +128,8 @@ final class AnswerBoundaries {
             due("lacks(" + i + ")", x.lacks(i), -1);
         }
         due("an empty SEA", new FalseName().lacks(0), -1);
-        String six = "ship s;" + Texts.lines("role", "u", "v", "w", "x", "y", "z") + Texts.lines("needs", "s u", "s v", "s w", "s x",
-            "s y", "s z");
-        due("six of six", Check.with(six + Texts.lines("man", "ma", "mb", "mc", "md", "me", "mf")).lacks(0), 6);
-        due("five MEN for six", Check.with(six + Texts.lines("man", "ma u", "mb v", "mc w", "md x", "me y z")).lacks(0), -1);
+        due("six of six", Check.with(SIX + Texts.lines("man", "ma", "mb", "mc", "md", "me", "mf")).lacks(0), 6);
+        due("five MEN for six", Check.with(SIX + Texts.lines("man", "ma u", "mb v", "mc w", "md x", "me y z")).lacks(0), -1);
     }
 
     private static void plays() {
@@ -146,8 +149,7 @@ final class AnswerBoundaries {
         due("not as many MEN", few.plays(0, 0), -1);
         due("not as many MEN", few.plays(0, 1), -1);
         due("an empty SEA", new FalseName().plays(0, 0), -1);
-        FalseName six = Check.with("ship s;" + Texts.lines("role", "u", "v", "w", "x", "y", "z") + Texts.lines("needs", "s u", "s v",
-            "s w", "s x", "s y", "s z") + Texts.lines("man", "ma", "mb", "mc", "md", "me", "mf", "mg", "mh z"));
+        FalseName six = Check.with(SIX + Texts.lines("man", "ma", "mb", "mc", "md", "me", "mf", "mg", "mh z"));
         due("the sixth, by the eighth MAN", six.plays(0, 5), 7);
         due("no seventh", six.plays(0, 6), -1);
     }
@@ -187,7 +189,8 @@ final class AnswerBoundaries {
     }
 
     private static void over() {
-        Doc.says("Promise 30", "Which name comes of one painted OVER another: the SHIP; NONE: none of hers, no such ones, alike.");
+        Doc.says("Promise 30",
+            "Which name comes of one painted OVER another: the SHIP; NONE: none of hers, no such ones, alike.");
         FalseName x = Check.with("ship ab;ship ba;ship bb;ship c;port ca;");
         due("a third", x.over(0, 1), 2);
         due("the other way", x.over(1, 0), 2);
@@ -208,8 +211,9 @@ final class AnswerBoundaries {
     }
 
     private static void mixed() {
-        Doc.says("Promise 31", "that give a third one: how many (k NONE), or the k-th: 10 times the lesser and the greater. "
-            + "NONE: none such.");
+        Doc.says("Promise 31",
+            "Pairs of names (the first OVER the second, or the second over the first: alike) that give a third "
+            + "one: how many (k NONE), or the k-th: 10 times the lesser and the greater. NONE: none such.");
         due("an empty SEA", new FalseName().mixed(-1), 0);
         due("an empty SEA", new FalseName().mixed(0), -1);
         FalseName two = Check.with("ship a;ship b;");
@@ -281,7 +285,9 @@ final class AnswerBoundaries {
     }
 
     private static void soonestHere() {
-        Doc.says("Promise 34", "and would not be caught there (by FAR, whatever is on the way; where she is: now, she is there)");
+        Doc.says("Promise 34",
+            "The soonest DAY on which she can be at a PORT where something is owed to the name that she has and is not taken, "
+            + "and would not be caught there (by FAR, whatever is on the way; where she is: now, she is there)");
         FalseName here = Check.with("port a;port b;way a b 1;ship s;wanted s a 5;wanted s b 5;owed s a 5;owed s b 5;");
         due("where she is she is not caught, though she is known", here.soonest(), 0);
         here.waits(7);
@@ -315,7 +321,8 @@ final class AnswerBoundaries {
 
     private static void where() {
         Doc.says("Promise 35", "That PORT (of like ones the first); NONE: likewise.");
-        FalseName x = Check.with("port a;port b;port c;port d;way a d 2;way a c 2;way a b 3;ship s;owed s b 1;owed s c 1;owed s d 250;");
+        FalseName x = Check.with("port a;port b;port c;port d;way a d 2;way a c 2;way a b 3;ship s;"
+            + "owed s b 1;owed s c 1;owed s d 250;");
         due("of like ones the first", x.where(), 2);
         due("soonest()", x.soonest(), 2);
         x.sail(3);
@@ -371,7 +378,8 @@ final class AnswerBoundaries {
     }
 
     private static void oddsSeeds() {
-        Doc.says("Promise 37", "Of n (1 to 30) seeds x, x and 1, .. by how many she is not caught in 10 voyages DRAWN from now on");
+        Doc.says("Promise 37",
+            "Of n (1 to 30) seeds x, x and 1, .. by how many she is not caught in 10 voyages DRAWN from now on");
         FalseName x = Check.with("port a;port b;port c;way a b 1;way b c 1;mail b c 3;ship s;ship t;parrot 4;rain b 2;");
         x.waits(2);
         // Seeds go on from the highest int to the lowest.
@@ -414,7 +422,8 @@ final class AnswerBoundaries {
     }
 
     private static void logLives() {
-        Doc.says("Promise 38", "The tape is a LOG: it is judged, all staying as it is (lives 0), or lived as far as it is not WRONG (1)");
+        Doc.says("Promise 38",
+            "The tape is a LOG: it is judged, all staying as it is (lives 0), or lived as far as it is not WRONG (1)");
         String text = "takes;waits 60;paints t;sails b;m learns r;sails b;waits 1;";
         FalseName x = Check.with(PAIR + "owed s a 5;role r;man m;");
         due("judged", Check.log(x, text, 0), 5);
@@ -745,7 +754,7 @@ final class AnswerBoundaries {
         for (int what = 0; what < 7; what++) {
             due("an empty SEA: count(" + what + ")", empty.count(what), 0);
         }
-        FalseName x = Check.with(Texts.lines("port", EIGHT) + Texts.lines("way", "a b 1", "b c 1", "c a 1") + "mail a b 1;mail b a 1;"
+        FalseName x = Check.with(Texts.lines("port", EIGHT) + "way a b 1;way b c 1;way c a 1;mail a b 1;mail b a 1;"
             + Texts.lines("ship", "s", "t", "u", "v") + "role k;man la;man lb;man lc;man ld;man le;parrot 12;rain a 1;");
         int[] want = {8, 3, 2, 4, 1, 5, 12};
         for (int what = 0; what < 7; what++) {

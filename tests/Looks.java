@@ -15,7 +15,8 @@ final class Looks {
             for (int q = 0; q < x.count(0); q++) {
                 all.append(" way ").append(x.way(p, q)).append(" mail ").append(x.mail(p, q));
             }
-            all.append(" safe ").append(x.safe(p)).append(" outruns ").append(x.outruns(p)).append(" name ").append(x.nameOf(p));
+            all.append(" safe ").append(x.safe(p)).append(" outruns ").append(x.outruns(p));
+            all.append(" name ").append(x.nameOf(p));
         }
         for (int s = 0; s < x.count(3); s++) {
             for (int p = 0; p < x.count(0); p++) {

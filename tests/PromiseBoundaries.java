@@ -172,7 +172,13 @@ final class PromiseBoundaries {
         due("empty behind register()", x.count(7), 0);
         for (int which = 0; which < 5; which++) {
             Check.put(x, "#");
-            int got = which == 0 ? x.sea() : which == 1 ? x.log(0) : which == 2 ? x.log(1) : which == 3 ? x.sentence() : x.register();
+            int got = switch (which) {
+                case 0 -> x.sea();
+                case 1 -> x.log(0);
+                case 2 -> x.log(1);
+                case 3 -> x.sentence();
+                default -> x.register();
+            };
             due("a FAULT", got < 0, true);
             due("empty behind a FAULT", x.count(7), 0);
         }
@@ -195,7 +201,8 @@ final class PromiseBoundaries {
     }
 
     private static void fault() {
-        Doc.says("Promise 5", "(a log() of -1000 leaves it); 0 without one and ahead of any.");
+        Doc.says("Promise 5", "The kind of the FAULT of the latest sea(), log() or sentence() (a log() of -1000 leaves it); "
+            + "0 without one and ahead of any.");
         FalseName x = new FalseName();
         due("ahead of any", x.fault(), 0);
         due("log(2)", x.log(2), -1000);
@@ -238,6 +245,10 @@ final class PromiseBoundaries {
             all.append("wanted ").append(ship).append(" a 9;");
         }
         due("all eight", Check.with(all.toString()).port(0, 0), 255);
+        FalseName other = Check.with("port z;" + all);
+        due("not what the next one knows", other.port(0, 0), 0);
+        due("the next one", other.port(1, 0), 255);
+        due("the eighth PORT", Check.with(PORTS + SHIPS + "wanted sa h 1;wanted sh h 1;").port(7, 0), 129);
     }
 
     private static void portWanted() {
@@ -532,7 +543,7 @@ final class PromiseBoundaries {
         Doc.says("Promise 16", "The latest of paint(), sail(), waits(), takes(), learn() that was done, drawn() above 0, "
             + "a LOG that was lived is undone");
         for (int which = 0; which < 7; which++) {
-            FalseName x = Check.with("port a;port b;way a b 3;mail b a 1;ship s;ship t;owed s a 5;role r;man m;rain b 4;parrot 12;");
+            FalseName x = Check.with(PAIR + "mail b a 1;owed s a 5;role r;man m;rain b 4;parrot 12;");
             String before = Looks.of(x).replaceAll("logged -?\\d+", "");
             due("act " + which, actDone(x, which), true);
             due("undo()", x.undo(), 0);
@@ -576,6 +587,19 @@ final class PromiseBoundaries {
                 due("the DAY then", x.now(0), stay * (stay + 1) / 2);
             }
             due("none of " + acts + " is left", x.undo(), -1);
+        }
+        // Calls that do nothing, though they try, leave what is kept.
+        FalseName tried = Check.with(PAIR);
+        for (int i = 1; i <= 10; i++) {
+            tried.waits(i);
+            tried.odds(1, i);
+            tried.sail(0);
+            Check.log(tried, "waits 60;sails b;", 0);
+        }
+        for (int left = 7; left >= 0; left--) {
+            due("undo()", tried.undo(), left);
+            due("the DAY then", tried.now(0), (left + 2) * (left + 3) / 2);
+            due("her PORT", tried.now(1), 0);
         }
         // What is done behind an undo() is kept in its place.
         FalseName x = Check.with(PAIR);
@@ -622,10 +646,13 @@ final class PromiseBoundaries {
     }
 
     private static void first() {
-        Doc.says("Promise 18", "The first PORT (of the earliest DAY, by numbers) that knows a name; NONE: none does, no such one.");
-        FalseName x = Check.with("port a;port b;port c;port d;mail d a 1;ship s;ship t;ship u;wanted s c 1;wanted s b 1;wanted t d 1;");
+        Doc.says("Promise 18",
+            "The first PORT (of the earliest DAY, by numbers) that knows a name; NONE: none does, no such one.");
+        FalseName x = Check.with("port a;port b;port c;port d;mail d a 1;ship s;ship t;ship u;"
+            + "wanted s c 1;wanted s b 1;wanted t d 1;");
         due("of like DAYS by numbers", x.first(0), 1);
         due("the earliest DAY ahead of numbers", x.first(1), 3);
+        due("PORT 0", Check.with("port a;port b;ship s;wanted s b 1;wanted s a 1;").first(0), 0);
         due("none does", x.first(2), -1);
         due("first(3)", x.first(3), -1);
         for (int i : ODD) {
@@ -653,7 +680,8 @@ final class PromiseBoundaries {
     }
 
     private static void hears() {
-        Doc.says("Promise 20", "The fewest DAYS of a row of mails from a PORT to another; NONE: there is none, no such ones, alike.");
+        Doc.says("Promise 20",
+            "The fewest DAYS of a row of mails from a PORT to another; NONE: there is none, no such ones, alike.");
         FalseName x = Check.with("port a;port b;port c;port d;mail a b 20;mail b c 20;mail a c 40;mail c a 1;");
         due("as few by the row", x.hears(0, 2), 40);
         due("back by another", x.hears(1, 0), 21);
@@ -666,13 +694,16 @@ final class PromiseBoundaries {
             due("hears(" + i + ", 0)", x.hears(i, 0), -1);
             due("hears(0, " + i + ")", x.hears(0, i), -1);
         }
+        due("by the first PORT", x.hears(2, 1), 21);
         due("fewer by the row", Check.with("port a;port b;port c;mail a b 1;mail b c 1;mail a c 3;").hears(0, 2), 2);
     }
 
     private static void safeNames() {
-        Doc.says("Promise 21", "Names under which she would not be caught, if she sailed now to a PORT by the way (painted or not), "
+        Doc.says("Promise 21",
+            "Names under which she would not be caught, if she sailed now to a PORT by the way (painted or not), "
             + "as bits");
-        String text = "port a;port b;port c;way a b 5;way a c 2;way c b 1;mail c b 5;" + SHIPS + "wanted sh c 1;wanted sb b 1;";
+        String text = "port a;port b;port c;way a b 5;way a c 2;way c b 1;mail c b 5;" + SHIPS
+            + "wanted sh c 1;wanted sb b 1;";
         FalseName x = Check.with(text + "role r;needs sc r;");
         due("known on that very DAY, painted or not, played or not", x.safe(1), 255 - 128 - 2);
         due("known there", x.safe(2), 127);

@@ -87,7 +87,8 @@ final class RuleBoundaries {
     }
 
     private static void letters() {
-        Doc.says("==== 2", "to which a mail comes from there, from d and the mail's DAYS on (it tells it on, by its own mails).");
+        Doc.says("==== 2",
+            "to which a mail comes from there, from d and the mail's DAYS on (it tells it on, by its own mails).");
         // a tells b in 3, b tells c in 4 and d in 40; a tells c in 8 itself, later than by b; no mail goes to e.
         FalseName x = Check.with("port a;port b;port c;port d;port e;mail a b 3;mail b c 4;mail a c 8;mail b d 40;mail e a 1;"
             + "ship s;wanted s a 1;");
@@ -266,6 +267,10 @@ final class RuleBoundaries {
         none.sail(1);
         due("caught", none.now(5), 1);
         due("nothing is wanted there", none.now(4), 0);
+        FalseName eight = Check.with("port a;port b;way a b 1;ship s;ship t;ship u;ship v;ship w;ship x;ship y;ship z;"
+            + Texts.lines("wanted", "s b 250", "t b 250", "u b 250", "v b 250", "w b 250", "x b 250", "y b 250", "z b 249"));
+        eight.sail(1);
+        due("all eight", eight.now(4), -1999);
         FalseName exactly = Check.with("port a;port b;way a b 1;ship s;owed s a 7;wanted s b 7;");
         exactly.takes();
         exactly.sail(1);
@@ -361,13 +366,15 @@ final class RuleBoundaries {
         due("back", x.far(1, 0), 19);
         due("none", x.far(0, 3), -1);
         due("to oneself", x.far(3, 3), 0);
+        due("by the first PORT", Check.with("port a;port b;port c;way a b 2;way a c 3;").far(1, 2), 5);
         FalseName row = Check.with(Texts.lines("port", "a", "b", "c", "d", "e", "f", "g", "h") + Texts.lines("way", "a b 20",
             "b c 20", "c d 20", "d e 20", "e f 20", "f g 20", "g h 20"));
         due("the longest", row.far(0, 7), 140);
     }
 
     private static void outruns() {
-        Doc.says("==== 3", "OUTRUNS a PORT: she comes there (by FAR, from now) ahead of the DAY from which its office knows her "
+        Doc.says("==== 3",
+            "OUTRUNS a PORT: she comes there (by FAR, from now) ahead of the DAY from which its office knows her "
             + "name (never known: too).");
         String text = "port a;port b;port c;way a c 2;way c b 2;way a b 9;mail c b 5;ship s;ship t;wanted s c 1;";
         FalseName x = Check.with(text);
@@ -385,7 +392,8 @@ final class RuleBoundaries {
     }
 
     private static void names() {
-        Doc.says("==== 3", "NAMES for all PORTS: one for each, so that no two of which one hears from the other (by a row of mails)"
+        Doc.says("==== 3",
+            "NAMES for all PORTS: one for each, so that no two of which one hears from the other (by a row of mails)"
             + " have the same");
         FalseName x = Check.with("port a;port b;port c;mail a b 40;mail b c 40;");
         due("by a row too", x.names(), 3);
@@ -396,7 +404,8 @@ final class RuleBoundaries {
     }
 
     private static void fewestNames() {
-        Doc.says("==== 3", "the fewest; of like ones the least at PORT 0, then at PORT 1, .. (names 0, 1, ..; as many as it needs)");
+        Doc.says("==== 3",
+            "the fewest; of like ones the least at PORT 0, then at PORT 1, .. (names 0, 1, ..; as many as it needs)");
         due("no PORTS", new FalseName().names(), 0);
         due("one", Check.with("port a;").names(), 1);
         FalseName free = Check.with(Texts.lines("port", "a", "b", "c", "d", "e", "f", "g", "h"));
@@ -419,7 +428,8 @@ final class RuleBoundaries {
     }
 
     private static void register() {
-        Doc.says("==== 3", "the fewest ships by which all can have been seen (one ship from one to another: DAYS by FAR at least; "
+        Doc.says("==== 3",
+            "the fewest ships by which all can have been seen (one ship from one to another: DAYS by FAR at least; "
             + "two at once in one PORT may be one).");
         FalseName x = Check.with("port a;port b;port c;port d;way a b 5;way b c 5;");
         due("FAR", Check.register(x, 0, 0, 2, 10), 1);
@@ -435,6 +445,10 @@ final class RuleBoundaries {
         // The first ship could be the third's seen too, but then none is left for the last.
         due("the fewest", Check.register(x, 0, 0, 2, 0, 1, 5, 0, 6), 2);
         due("all apart", Check.register(x, 0, 0, 1, 1, 2, 2, 3, 3), 4);
+        due("three of ten apart", Check.register(x, 0, 0, 1, 0, 2, 0, 0, 5, 1, 5, 2, 5, 0, 10, 1, 10, 2, 10, 2, 11), 3);
+        due("the last two apart", Check.register(x, 0, 0, 0, 9, 0, 20, 1, 20), 2);
+        due("the first two apart", Check.register(x, 0, 0, 1, 0, 1, 9, 1, 20), 2);
+        due("the first and the last apart", Check.register(x, 0, 9, 0, 30, 0, 20, 1, 10), 2);
     }
 
     private static void registerPairs() {
@@ -520,7 +534,8 @@ final class RuleBoundaries {
     }
 
     private static void draws() {
-        Doc.says("==== 3", "for each draw of n x becomes x * 1103515245 + 12345 (an int, wrapping), the draw is (x >>> 8) % n: "
+        Doc.says("==== 3",
+            "for each draw of n x becomes x * 1103515245 + 12345 (an int, wrapping), the draw is (x >>> 8) % n: "
             + "each voyage: a draw of 3: 0: a draw of all SHIPS");
         FalseName x = Check.with("port a;port b;port c;way a b 1;way b c 2;way c a 4;ship s;ship t;ship u;ship v;ship w;");
         int[] seeds = {0, 1, -1, 2, -2, Integer.MAX_VALUE, Integer.MIN_VALUE, Integer.MAX_VALUE - 1, Integer.MIN_VALUE + 1,
@@ -569,7 +584,8 @@ final class RuleBoundaries {
     }
 
     private static void drawnParrot() {
-        Doc.says("==== 3", "if she did and is not caught, a draw of 12: below N: the office knows her name from that DAY on.");
+        Doc.says("==== 3",
+            "if she did and is not caught, a draw of 12: below N: the office knows her name from that DAY on.");
         FalseName never = Check.with("port a;port b;way a b 1;ship s;parrot 0;");
         due("N of 0", never.drawn(60, 3), 60);
         due("none knows", never.first(0), -1);
@@ -633,6 +649,21 @@ final class RuleBoundaries {
         due("what was told is not known", x.first(0), -1);
         due("she came nowhere", x.port(1, 2), 0);
         due("nothing can be undone", x.undo(), -1);
+        due("a SEA of which nothing of this is told", Check.sea(x, "port a;port b;ship s;ship t;role r;man m;"), 6);
+        due("no way", x.way(0, 1), -1);
+        due("nothing owed", x.price(0, 0, 1), 0);
+        due("FAR", x.far(0, 1), -1);
+        FalseName rich = Check.with(Texts.SEA);
+        due("a SEA of which nothing of this is told",
+            Check.sea(rich, "port a;port b;ship s;ship t;role q;role r;man m;man n;"), 8);
+        due("needs", rich.needs(1), 0);
+        due("man", rich.man(0), 0);
+        due("mail", rich.mail(0, 1) + rich.hears(0, 1), -2);
+        due("wanted", rich.price(1, 1, 0), 0);
+        due("known", rich.first(1), -1);
+        rich.waits(4);
+        due("rain", rich.port(1, 3), 0);
+        due("parrot", rich.count(6), 0);
         FalseName gone = caught();
         due("sea()", Check.sea(gone, ""), 0);
         nowIs(gone, 0, -1, -1, -1, 0, 0, 0, 0);

@@ -35,8 +35,17 @@ final class TextBoundaries {
         logBytes();
         logLines();
         logWaits();
+        logActs();
         sentenceBytes();
+        allAndOr();
+        notAndBrackets();
+        signsOfNumbers();
+        here();
         been();
+        safe();
+        knowsByNow();
+        hears();
+        namesAndNumber();
         farAboveAll();
         onesAndWithin();
         saidOfPorts();
@@ -73,6 +82,9 @@ final class TextBoundaries {
         Texts.seaIs("port a;port z;port zzzzzzz;port abcdefg;", 4);
         Texts.seaFault("port ^abcdefgh;", 1);
         Texts.seaFault("port ^;", 1);
+        // Each of the seven letters counts, and how many there are.
+        Texts.seaIs("port abcdefg;port abcdefh;port abcdef;port bbcdefg;ship abcdeg;ship a;ship aa;", 7);
+        Texts.seaFault("port abcdefg;port ^abcdefg;", 3);
         // The signs beside a and z, and large letters.
         for (String sign : new String[] {"^`", "^{", "^A", "^Z", "a^B"}) {
             Texts.seaFault("port " + sign + ";", 1);
@@ -304,9 +316,13 @@ final class TextBoundaries {
         }
         full("port a;", 1, "rain", -1, "a 16", days);
         // All that there may be of all sorts of NAMES at once.
-        Texts.seaIs(ports + Texts.lines("ship", "sa", "sb", "sc", "sd", "se", "sf", "sg", "sh")
+        FalseName x = Texts.seaIs(ports + Texts.lines("ship", "sa", "sb", "sc", "sd", "se", "sf", "sg", "sh")
             + Texts.lines("role", "ra", "rb", "rc", "rd", "re", "rf")
             + Texts.lines("man", "ma", "mb", "mc", "md", "me", "mf", "mg", "mh ra rf"), 30);
+        Check.due("the first and the last of them", Check.log(x, "ma learns rf;mh learns re;paints sh;", 1), -1);
+        Check.due("man(0)", x.man(0), 32);
+        Check.due("man(7)", x.man(7), 49);
+        Check.due("now(2)", x.now(2), 7);
     }
 
     private static void numbered() {
@@ -351,6 +367,23 @@ final class TextBoundaries {
         Texts.logFault("waits^;", 1);
     }
 
+    private static void logActs() {
+        Doc.says("Terms", "'sails' PORT | 'paints' SHIP | 'waits' N (1 to 60) | 'takes' | MAN 'learns' ROLE.");
+        FalseName x = Texts.logIs("sails b;paints s;takes;m learns q;n learns r;waits 1;");
+        Check.due("the second is WRONG", x.logged(0), 2);
+        Texts.logFault("sails^;", 1);
+        Texts.logFault("sails b ^c;", 1);
+        Texts.logFault("paints^;", 1);
+        Texts.logFault("paints s ^t;", 1);
+        Texts.logFault("takes ^s;", 1);
+        Texts.logFault("m^;", 1);
+        Texts.logFault("m learns^;", 1);
+        Texts.logFault("m learns q ^r;", 1);
+        Texts.logFault("^learns q;", 1);
+        Texts.logFault("^parrot 1;", 1);
+        Texts.logFault("^here;", 1);
+    }
+
     private static void sentenceBytes() {
         Doc.says("Terms", "A SENTENCE is a text of at most 200 bytes: COND");
         Texts.sentenceIs(Texts.padded("here", 200), 1);
@@ -373,6 +406,64 @@ final class TextBoundaries {
         return bits;
     }
 
+    private static void allAndOr() {
+        Doc.says("Terms", "COND: ALL { 'or' ALL }. ALL: ONE { 'and' ONE }.");
+        FalseName x = Check.with(Texts.SEA);
+        Check.due("one alone", portsSaid(x, "number < 2"), 3);
+        Check.due("'and' ahead of 'or'", portsSaid(x, "number = 0 or number > 0 and number < 2"), 3);
+        Check.due("'and' ahead of 'or'", portsSaid(x, "number > 0 and number < 2 or number = 0"), 3);
+        Check.due("brackets ahead of both", portsSaid(x, "(number = 0 or number > 0) and number > 1"), 4);
+        Check.due("'not' of the next ONE alone", portsSaid(x, "not number = 0 and number < 2"), 2);
+        Check.due("'not' of a bracket", portsSaid(x, "not (number = 0 and number < 2)"), 6);
+        String ten = "number > 0 and ".repeat(9) + "number > 0";
+        Check.due("ten ALL", portsSaid(x, ten), 6);
+        Check.due("twenty ALL", portsSaid(x, "been and ".repeat(19) + "here"), 1);
+        Check.due("the twentieth counts", portsSaid(x, "been and ".repeat(19) + "safe"), 0);
+        Check.due("twenty or", portsSaid(x, "been or ".repeat(19) + "safe"), 3);
+    }
+
+    private static void notAndBrackets() {
+        Doc.says("Terms", "ONE: 'not' ONE | ( COND )");
+        FalseName x = Check.with(Texts.SEA);
+        Check.due("'not' of all", portsSaid(x, "not number < 3"), 0);
+        Check.due("'not' of none", portsSaid(x, "not number > 2"), 7);
+        Check.due("'not not'", portsSaid(x, "not not here"), 1);
+        Check.due("seven times", portsSaid(x, "not ".repeat(7) + "here"), 6);
+        Check.due("seven brackets", portsSaid(x, "(".repeat(7) + "here" + ")".repeat(7)), 1);
+        Texts.sentenceFault("not^", 1);
+        Texts.sentenceFault("(^)", 1);
+        Texts.sentenceFault("(here^", 1);
+        Texts.sentenceFault("((here)^", 1);
+        Texts.sentenceFault("(here)^)", 1);
+        Texts.sentenceFault("here ^not", 1);
+    }
+
+    private static void signsOfNumbers() {
+        Doc.says("Terms", "( 'far' | 'names' | 'number' ) SIGN NUMBER");
+        for (String word : new String[] {"far", "names", "number"}) {
+            Texts.sentenceIs(word + "<0 or " + word + " = 999 or " + word + "\n>\n007", 3);
+            Texts.sentenceFault(word + "^", 1);
+            Texts.sentenceFault(word + " ^7", 1);
+            Texts.sentenceFault(word + " ^( 7", 1);
+            Texts.sentenceFault(word + " ^; 7", 1);
+            Texts.sentenceFault(word + " < ^= 7", 1);
+            Texts.sentenceFault(word + " < ^", 1);
+            Texts.sentenceFault(word + " < ^x", 1);
+            Texts.sentenceFault(word + " < ^1000", 1);
+            Texts.sentenceFault(word + " < 7 ^8", 1);
+        }
+    }
+
+    private static void here() {
+        Doc.says("Terms", "'here' (she is there)");
+        FalseName x = Check.with(Texts.SEA);
+        Check.due("at the first PORT", portsSaid(x, "here"), 1);
+        x.sail(1);
+        Check.due("at the next", portsSaid(x, "here"), 2);
+        Check.due("no sea for her", portsSaid(Check.with("port a;"), "here"), 0);
+        Check.due("caught she is there", portsSaid(RuleBoundaries.caught(), "here"), 2);
+    }
+
     private static void been() {
         Doc.says("Terms", "'been' (she was there at some time)");
         FalseName x = Check.with(Texts.SEA);
@@ -382,6 +473,59 @@ final class TextBoundaries {
         x.sail(0);
         Check.due("and still", portsSaid(x, "been"), 3);
         Check.due("no sea for her", portsSaid(Check.with("port a;"), "been or here"), 0);
+    }
+
+    private static void safe() {
+        Doc.says("Terms", "'safe' (she may come there now by a way, under the name that she has)");
+        String text = "port a;port b;port c;port d;way a b 5;way b c 1;way a d 5;mail c b 5;mail c d 6;ship s;ship t;"
+            + "wanted s c 9;";
+        FalseName x = Check.with(text);
+        Check.due("known on that DAY: not; a DAY later: safe; by two ways: not", portsSaid(x, "safe"), 8);
+        x.paint(1);
+        Check.due("under the other name", portsSaid(x, "safe"), 10);
+        x.paint(0);
+        Check.due("two DAYS later", portsSaid(x, "safe"), 0);
+        x.sail(1);
+        Check.due("caught", portsSaid(x, "safe"), 0);
+        Check.due("no sea for her", portsSaid(Check.with("port a;port b;way a b 1;"), "safe"), 0);
+    }
+
+    private static void knowsByNow() {
+        Doc.says("Terms", "'knows' SHIP (it does by now)");
+        FalseName x = Check.with("port a;port b;mail a b 5;ship s;ship t;wanted t a 9;");
+        Check.due("on DAY 0", portsSaid(x, "knows t"), 1);
+        Check.due("the other", portsSaid(x, "knows s"), 0);
+        x.waits(4);
+        Check.due("a DAY ahead", x.said(-1), 0);
+        Check.due("a DAY ahead", portsSaid(x, "knows t"), 1);
+        x.waits(1);
+        Check.due("by now", x.said(-1), 2);
+    }
+
+    private static void hears() {
+        Doc.says("Terms", "'hears' PORT (there is a row of mails from that one to it)");
+        FalseName x = Check.with("port a;port b;port c;port d;mail b a 40;mail a c 40;way a d 1;");
+        Check.due("from the first of the row", portsSaid(x, "hears b"), 5);
+        Check.due("from the second", portsSaid(x, "hears a"), 4);
+        Check.due("from the last", portsSaid(x, "hears c"), 0);
+        Check.due("without mails", portsSaid(x, "hears d"), 0);
+    }
+
+    private static void namesAndNumber() {
+        Doc.says("Terms", "(DAYS by ways from where she is; how many names it knows by now; its number)");
+        FalseName x = Check.with("port a;port b;mail a b 5;" + Texts.lines("ship", "i", "j", "k", "l", "m", "n", "o", "p")
+            + Texts.lines("wanted", "i a 1", "j a 1", "k a 1", "l a 1", "m a 1", "n a 1", "o a 1", "p a 1"));
+        Check.due("all eight", portsSaid(x, "names = 8"), 1);
+        Check.due("not above", portsSaid(x, "names > 8"), 0);
+        Check.due("not below", portsSaid(x, "names < 8"), 2);
+        x.waits(4);
+        Check.due("a DAY ahead", portsSaid(x, "names = 0"), 2);
+        x.waits(1);
+        Check.due("by now", portsSaid(x, "names > 7"), 3);
+        Check.due("the first PORT is number 0", portsSaid(x, "number = 0"), 1);
+        Check.due("number <", portsSaid(x, "number < 1"), 1);
+        Check.due("number >", portsSaid(x, "number > 0"), 2);
+        Check.due("no such number", portsSaid(x, "number > 1"), 0);
     }
 
     private static void farAboveAll() {
@@ -497,7 +641,8 @@ final class TextBoundaries {
         for (String text : new String[] {"sails", "sails b", "waits", "waits 1 ", "m", "m learns", "m learns r", "takes"}) {
             Texts.logFault(text + "^", 1);
         }
-        for (String text : new String[] {"", "not", "here or", "here and ", "(", "(here", "far", "far <", "knows", "hears\n"}) {
+        String[] sentences = {"", "not", "here or", "here and ", "(", "(here", "far", "far <", "knows", "hears\n"};
+        for (String text : sentences) {
             Texts.sentenceFault(text + "^", 1);
         }
     }
@@ -585,10 +730,16 @@ final class TextBoundaries {
         Texts.sentenceFault("knows ^x", 3);
         Texts.sentenceFault("hears ^s", 3);
         Texts.sentenceFault("hears ^x", 3);
+        // Behind 'and', 'or', 'not' and within brackets too.
+        Texts.sentenceFault("here and knows ^a", 3);
+        Texts.sentenceFault("here or knows ^a", 3);
+        Texts.sentenceFault("not knows ^a and here", 3);
+        Texts.sentenceFault("((here) or(been and hears ^s))", 3);
     }
 
     private static void toldAgain() {
-        Doc.says("Terms", "or what is told once of two told again (at the second; of 'rain' at DAY), 'parrot' told again (at it)");
+        Doc.says("Terms",
+            "or what is told once of two told again (at the second; of 'rain' at DAY), 'parrot' told again (at it)");
         Texts.seaFault(AB + "way a b 3;way b  ^a 99;", 3);
         Texts.seaFault(AB + "mail a b 3;mail a\n^b 99;", 3);
         Texts.seaFault("port a;ship s;wanted s a 1;wanted s ^a 999;", 3);

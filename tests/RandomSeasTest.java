@@ -1,5 +1,6 @@
 import java.util.ArrayDeque;
 import java.util.ArrayList;
+import java.util.Arrays;
 import java.util.Deque;
 import java.util.List;
 import java.util.Random;
@@ -11,19 +12,63 @@ public final class RandomSeasTest {
     private static Model model;
     private static Deque<Model.State> past;
     private static int calls;
+    private static final Kept[] KEPT = new Kept[2];
+
+    /** What an image must bring back. */
+    private record Kept(Model model, Model.State now, List<Integer> said) {
+    }
 
     public static void main(String[] args) {
         for (int run = 0; run < 400; run++) {
+            x = new FalseName();
+            Arrays.fill(KEPT, null);
             newSea(run);
-            due("sea()", Check.sea(x, String.join("", model.text)), model.text.size());
             calls = 0;
             chart();
             while (calls < 450) {
                 act();
                 looks();
+                if (below(6) == 0) {
+                    images();
+                }
+                if (below(25) == 0) {
+                    newSea(below(50));
+                }
             }
         }
         Check.end("RandomSeasTest");
+    }
+
+    private static void images() {
+        int k = below(3) - (below(9) == 0 ? 1 : 0);
+        if (below(2) == 0) {
+            due("image(" + k + ")", x.image(k) ? 1 : 0, k == 0 || k == 1 ? 1 : 0);
+            if (k == 0 || k == 1) {
+                KEPT[k] = new Kept(model, model.now.copy(), said());
+            }
+            return;
+        }
+        Kept kept = k == 0 || k == 1 ? KEPT[k] : null;
+        due("restore(" + k + ")", x.restore(k) ? 1 : 0, kept == null ? 0 : 1);
+        if (kept != null) {
+            model = kept.model;
+            model.now = kept.now.copy();
+            past.clear();
+            due("said() as kept", said().equals(kept.said) ? 1 : 0, 1);
+            undo();
+            chart();
+            looks();
+        }
+    }
+
+    /** Each answer of said(), the SENTENCE's whole meaning now. */
+    private static List<Integer> said() {
+        List<Integer> all = new ArrayList<>();
+        for (int k = -1; k < 8; k++) {
+            all.add(x.said(k));
+        }
+        calls += all.size();
+        return all;
     }
 
     private static void due(String call, long got, long want) {
@@ -39,8 +84,8 @@ public final class RandomSeasTest {
         return days >= 1000000 ? -1 : days;
     }
 
+    /** The object gets a sea that is made anew; images of those ahead of it stay. */
     private static void newSea(int run) {
-        x = new FalseName();
         model = new Model();
         past = new ArrayDeque<>();
         model.ports = run % 50 == 0 ? 0 : 1 + below(8);
@@ -65,6 +110,9 @@ public final class RandomSeasTest {
         }
         fill();
         model.start();
+        due("sea()", Check.sea(x, String.join("", model.text)), model.text.size());
+        due("said(-1) of a new sea", x.said(-1), -1);
+        undo();
     }
 
     private static String letters(int number) {
